@@ -70,6 +70,9 @@ public final class TapeTest {
         PROBE.due("count(12)", pad.count(12), 19);
         PROBE.due("teach", pad.teach(), 0);
         PROBE.due("tags", pad.count(1), 3);
+        Probe.write(pad, "tag");
+        PROBE.due("trim(0)", pad.trim(0), 0);
+        PROBE.due("count(12)", pad.count(12), 0);
     }
 
     private static void countEdges() {

@@ -16,6 +16,7 @@ public final class TeachTest {
         keyRows();
         orderOfErrors();
         stateBehindTeach();
+        manyLists();
         PROBE.end();
     }
 
@@ -46,6 +47,7 @@ public final class TeachTest {
         PROBE.wrongList("tagt;", 1, 0);
         PROBE.wrongList("tag t\u00e9;", 1, 5);
         PROBE.wrongList("tag t; #", 1, 7);
+        PROBE.wrongList("tag t;\u0000", 1, 6);
         PROBE.wrongList(WORD_T + "boost t by 1 when 1 < = 2;", 1, 51);
         PROBE.wrongList(WORD_T + "boost t by 1 when 1 =< 2;", 1, 50);
         PROBE.wrongList(WORD_T + "boost t by 1 when 1 == 2;", 1, 50);
@@ -100,6 +102,10 @@ public final class TeachTest {
         good(start + "min(1,min(1,min(1,min(1,min(1,min(1,min(1,min(1,2))))))))" + ones);
         PROBE.wrongList(start + "(((((((( min (1,2) ))))))))" + ones, 1, 18 + 13);
         PROBE.wrongList(start + "((((((((-1))))))))" + ones, 1, 18 + 8);
+        good(start + "min(-------1,-------1)" + ones);
+        PROBE.wrongList(start + "min(--------1,1)" + ones, 1, 18 + 11);
+        PROBE.wrongList(start + "max(1,--------1)" + ones, 1, 18 + 13);
+        good(start + "min(1,2)+--------1" + ones);
         String test = "tag t; boost t by 1 when ";
         good(test + "not not not not not not not not 1=1;");
         PROBE.wrongList(test + "not not not not not not not not not 1=1;", 1, 25 + 32);
@@ -206,5 +212,29 @@ public final class TeachTest {
         PROBE.due("no tag", pad.word(0, 1), -1);
         PROBE.teach(pad, "", 0, -1);
         PROBE.due("no words", pad.count(0), 0);
+    }
+
+    /** Each list stands alone, however many were taught ahead of it. */
+    private static void manyLists() {
+        WordPad pad = new WordPad();
+        for (int i = 0; i < 3; i++) {
+            for (int boost = 3; boost < 6; boost++) {
+                PROBE.teach(pad, "keys ab, cd, ef; tag t; tag u; tag v; word w weight 1 of u; word wa weight 2;"
+                        + "boost t by 50 when 1=1; boost u by " + boost + " when begins w" + (boost == 4 ? "a" : "")
+                        + " or begins q;", 0, -1);
+                int[] figures = {2, 3, 3, 2};
+                for (int what = 0; what < figures.length; what++) {
+                    PROBE.due("count(" + what + ")", pad.count(what), figures[what]);
+                }
+                PROBE.due("weight", pad.word(0, 0), 1);
+                PROBE.due("tag", pad.word(0, 1), 1);
+                PROBE.due("no tag", pad.word(1, 1), -1);
+                pad.type('w');
+                PROBE.due("score", pad.word(0, 4), boost == 4 ? 1 : 1 + boost);
+                PROBE.holds("neighbours", pad.near('a', 'b') && pad.near('c', 'a') && pad.near('e', 'd'));
+                PROBE.teach(pad, "keys kl, pq; tag x; tag y; word zz weight 10000 of y;", 5, 42);
+                PROBE.holds("no neighbours", !pad.near('k', 'l') && !pad.near('a', 'k'));
+            }
+        }
     }
 }

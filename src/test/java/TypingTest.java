@@ -5,6 +5,7 @@ public final class TypingTest {
     public static void main(String[] args) {
         typeAndBack();
         takeOffers();
+        takeAtOnce();
         takenWordsGetHeavier();
         allWordsFade();
         sayKnownWords();
@@ -49,6 +50,23 @@ public final class TypingTest {
         PROBE.due("take(0) with nothing typed", pad.take(0), 2);
         PROBE.due("take(1)", pad.take(1), 1);
         PROBE.due("latest", pad.count(11), 1);
+    }
+
+    /** Takes and needs by what is typed now, with no call between that would look at the offers. */
+    private static void takeAtOnce() {
+        WordPad pad = PROBE.taught("word a weight 1; word b weight 3;");
+        PROBE.due("offer", pad.offer(0), 1);
+        pad.setLimit(0);
+        pad.type('a');
+        PROBE.due("take", pad.take(0), 0);
+        PROBE.due("take", pad.take(0), 0);
+        pad.type('b');
+        PROBE.due("needs", pad.needs(1), 0);
+        pad.back();
+        PROBE.due("needs", pad.needs(1), 12);
+        PROBE.due("offer", pad.offer(0), 0);
+        PROBE.teach(pad, "word c weight 1; word d weight 4;", 0, -1);
+        PROBE.due("take behind teach", pad.take(0), 1);
     }
 
     private static void takenWordsGetHeavier() {

@@ -6,6 +6,7 @@ public final class WouldBeTest {
         bestKey();
         strokesOfWords();
         strokesWithBoosts();
+        strokesWithinTheLimit();
         neededWeights();
         neededWeightsAtTheEdges();
         closestWords();
@@ -34,6 +35,7 @@ public final class WouldBeTest {
         PROBE.due("best behind 20 letters", pad.best(), -1);
         WordPad ties = PROBE.taught("word zz weight 3; word bb weight 1; word ba weight 2; word ac weight 0;");
         PROBE.due("best of a tie", ties.best(), 'b');
+        PROBE.due("best is z", PROBE.taught("word zz weight 3; word yy weight 2;").best(), 'z');
         WordPad zero = PROBE.taught("word zz weight 0; word yy weight 0;");
         PROBE.due("best without weights", zero.best(), 'y');
     }
@@ -71,6 +73,18 @@ public final class WouldBeTest {
         Probe.say(taken, "b");
         Probe.type(taken, "aa");
         PROBE.due("behind taking it", taken.strokes(5), 1);
+    }
+
+    /** Other words that are near by slips are ahead of it, as far as the limit goes. */
+    private static void strokesWithinTheLimit() {
+        WordPad pad = PROBE.taught("word xa weight 100; word xb weight 100; word xc weight 100; word xd weight 100;"
+                + "word xe weight 100; word bad weight 0;");
+        int[] strokes = {4, 4, 4, 2, 2, 2, 2, 2, 2, 2};
+        int[] limits = {9, 8, 6, 2, 0, 1, 2, 1, 0, 2};
+        for (int i = 0; i < limits.length; i++) {
+            pad.setLimit(limits[i]);
+            PROBE.due("strokes with the limit " + limits[i], pad.strokes(5), strokes[i]);
+        }
     }
 
     private static void neededWeights() {
@@ -131,6 +145,12 @@ public final class WouldBeTest {
         for (int word : none) {
             PROBE.refuses("closest(" + word + ")", pad, IndexOutOfBoundsException.class, () -> pad.closest(word));
         }
+        WordPad first = PROBE.taught("word abcd weight 1; word abcx weight 1; word abcdef weight 1;");
+        PROBE.due("closest is 0 ahead of others", first.closest(0), 0);
+        PROBE.due("closest is the first one", first.closest(1), 3);
+        PROBE.due("closest is the first one", first.closest(2), 6);
+        WordPad zeroFirst = PROBE.taught("word ab weight 1; word a weight 1; word xyz weight 1;");
+        PROBE.due("closest is 0 and then more", zeroFirst.closest(1), 0);
         PROBE.due("closest of the only word", PROBE.taught("word a weight 1;").closest(0), -1);
     }
 
