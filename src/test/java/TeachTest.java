@@ -17,6 +17,7 @@ public final class TeachTest {
         orderOfErrors();
         stateBehindTeach();
         manyLists();
+        manyBeginnings();
         PROBE.end();
     }
 
@@ -212,6 +213,19 @@ public final class TeachTest {
         PROBE.due("no tag", pad.word(0, 1), -1);
         PROBE.teach(pad, "", 0, -1);
         PROBE.due("no words", pad.count(0), 0);
+    }
+
+    /** As many names behind begins as a list can hold, more than once. */
+    private static void manyBeginnings() {
+        WordPad pad = new WordPad();
+        for (int i = 0; i < 4; i++) {
+            PROBE.teach(pad, "tag t;word w weight 1 of t;boost t by 7 when begins b" + " or begins c".repeat(125)
+                    + " or begins w;", 0, -1);
+            pad.type('w');
+            PROBE.due("score", pad.word(0, 4), 8);
+            pad.back();
+            PROBE.due("score", pad.word(0, 4), 1);
+        }
     }
 
     /** Each list stands alone, however many were taught ahead of it. */
