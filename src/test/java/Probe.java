@@ -1,4 +1,5 @@
 import java.nio.charset.StandardCharsets;
+import java.util.Arrays;
 
 /** What the tests share: feeding texts, and telling the answers that are not due. */
 final class Probe {
@@ -25,9 +26,16 @@ final class Probe {
         teach(new WordPad(), list, error, position);
         WordPad pad = taught("keys qwe; tag t; word old weight 7 of t; boost t by 3 when typed >= 0;");
         type(pad, "ol");
-        long before = pad.digest();
+        long[] before = state(pad);
         teach(pad, list, error, position);
-        due("digest after the wrong " + list, pad.digest(), before);
+        due("errorAt after the wrong " + list, pad.errorAt(), position);
+        holds("all stays behind the wrong " + list, Arrays.equals(state(pad), before));
+    }
+
+    /** A list that is wrong at the token, or the end, that stands behind the ^. */
+    void wrongAt(String marked, int error) {
+        int position = marked.indexOf('^');
+        wrongList(marked.substring(0, position) + marked.substring(position + 1), error, position);
     }
 
     /** Appends a text to a tape, whose length may be any. */
@@ -57,6 +65,20 @@ final class Probe {
         return pad.say();
     }
 
+    /** Looks at one figure of the pad after the other, from count(0) on. */
+    void figures(String when, WordPad pad, int... figures) {
+        for (int what = 0; what < figures.length; what++) {
+            due(when + ": count(" + what + ")", pad.count(what), figures[what]);
+        }
+    }
+
+    /** Looks at one figure of a word after the other, from word(word, 0) on. */
+    void wordFigures(String when, WordPad pad, int word, int... figures) {
+        for (int what = 0; what < figures.length; what++) {
+            due(when + ": word(" + word + ", " + what + ")", pad.word(word, what), figures[what]);
+        }
+    }
+
     void due(String call, long got, long want) {
         if (got != want) {
             tell(call + " answered " + got + ", due is " + want);
@@ -75,9 +97,17 @@ final class Probe {
         }
     }
 
+    /** What a pad answers to calls that change nothing, but for errorAt. */
+    private static long[] state(WordPad pad) {
+        int words = pad.count(0);
+        return new long[] {pad.digest(), pad.best(), Double.doubleToLongBits(pad.mean()),
+            words == 0 ? -2 : pad.strokes(words - 1), words == 0 ? -2 : pad.needs(words - 1),
+            words == 0 ? -2 : pad.closest(words - 1), pad.near('a', 'b') ? 1 : 0, pad.near('q', 'w') ? 1 : 0};
+    }
+
     /** Looks that a call throws just this, and that it changes nothing. */
     void refuses(String call, WordPad pad, Class<?> kind, Runnable action) {
-        long before = pad.digest();
+        long[] before = state(pad);
         int errorBefore = pad.errorAt();
         Class<?> thrown = null;
         try {
@@ -88,8 +118,20 @@ final class Probe {
         if (thrown != kind) {
             tell(call + " threw " + thrown + ", due is " + kind);
         }
-        due("digest after " + call, pad.digest(), before);
+        holds("all stays behind " + call, Arrays.equals(state(pad), before));
         due("errorAt after " + call, pad.errorAt(), errorBefore);
+    }
+
+    void refusesIndex(String call, WordPad pad, Runnable action) {
+        refuses(call, pad, IndexOutOfBoundsException.class, action);
+    }
+
+    void refusesArgument(String call, WordPad pad, Runnable action) {
+        refuses(call, pad, IllegalArgumentException.class, action);
+    }
+
+    void refusesState(String call, WordPad pad, Runnable action) {
+        refuses(call, pad, IllegalStateException.class, action);
     }
 
     void offers(String when, WordPad pad, int... words) {
