@@ -880,8 +880,8 @@ public final class WordPad {
     }
 
     /**
-     * Looks for error 1, and writes down the steps of the boosts; behind weight, last and begins
-     * it writes the token of the name, for what it stands for is not known yet. A method that
+     * Looks for error 1, and writes down the steps of the boosts; with weight, last and begins goes
+     * the token of the name behind them, for what it stands for is not known yet. A method that
      * answers false has stopped at the token that is wrong.
      */
     private static final class Grammar {
@@ -982,33 +982,33 @@ public final class WordPad {
             int kind = kinds.at(at);
             switch (kind) {
                 case Tokens.NOT:
-                    if (!goDeeper(kind, depth) || !single(depth + 1)) {
+                    if (depth >= DEEPEST || !skip(kind) || !single(depth + 1)) {
                         return false;
                     }
-                    boosts.addStep(Tokens.NOT, 0);
+                    boosts.addStep(kind, 0);
                     return true;
                 case '[':
-                    return goDeeper(kind, depth) && test(depth + 1) && skip(']');
+                    return depth < DEEPEST && skip(kind) && test(depth + 1) && skip(']');
                 case Tokens.LAST:
                 case Tokens.BEGINS:
-                    return withName(kind);
+                    boosts.addStep(kind, at + 1);
+                    return skip(kind) && skip(Tokens.NAME);
                 default:
-                    return comparison(depth);
+                    if (!sum(depth)) {
+                        return false;
+                    }
+                    int sign = kinds.at(at);
+                    if (!compares(sign) || !skip(sign) || !sum(depth)) {
+                        return false;
+                    }
+                    boosts.addStep(sign, 0);
+                    return true;
             }
         }
 
-        private boolean comparison(int depth) {
-            if (!sum(depth)) {
-                return false;
-            }
-            int kind = kinds.at(at);
-            boolean compares = kind == '<' || kind == '>' || kind == '='
+        private static boolean compares(int kind) {
+            return kind == '<' || kind == '>' || kind == '='
                     || kind == Tokens.LESS_OR_EQUAL || kind == Tokens.GREATER_OR_EQUAL;
-            if (!compares || !skip(kind) || !sum(depth)) {
-                return false;
-            }
-            boosts.addStep(kind, 0);
-            return true;
         }
 
         private boolean sum(int depth) {
@@ -1044,15 +1044,16 @@ public final class WordPad {
                     boosts.addStep(kind, 0);
                     return skip(kind);
                 case Tokens.WEIGHT:
-                    return withName(kind);
+                    boosts.addStep(kind, at + 1);
+                    return skip(kind) && skip(Tokens.NAME);
                 case '-':
-                    if (!goDeeper(kind, depth) || !value(depth + 1)) {
+                    if (depth >= DEEPEST || !skip(kind) || !value(depth + 1)) {
                         return false;
                     }
                     boosts.addStep(Boosts.TURN, 0);
                     return true;
                 case '(':
-                    return goDeeper(kind, depth) && sum(depth + 1) && skip(')');
+                    return depth < DEEPEST && skip(kind) && sum(depth + 1) && skip(')');
                 case Tokens.MIN:
                 case Tokens.MAX:
                     return skip(kind) && ofTwo(kind, depth);
@@ -1062,24 +1063,12 @@ public final class WordPad {
         }
 
         private boolean ofTwo(int kind, int depth) {
-            if (!goDeeper('(', depth) || !sum(depth + 1) || !skip(',')
+            if (depth >= DEEPEST || !skip('(') || !sum(depth + 1) || !skip(',')
                     || !sum(depth + 1) || !skip(')')) {
                 return false;
             }
             boosts.addStep(kind, 0);
             return true;
-        }
-
-        private boolean withName(int kind) {
-            if (!skip(kind)) {
-                return false;
-            }
-            boosts.addStep(kind, at);
-            return skip(Tokens.NAME);
-        }
-
-        private boolean goDeeper(int kind, int depth) {
-            return depth < DEEPEST && skip(kind);
         }
     }
 
